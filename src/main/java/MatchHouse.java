@@ -66,32 +66,27 @@ public final class MatchHouse {
   public int grammar() {
     int length = tapeLength;
     tapeLength = 0;
-    faultKind = findFault(length);
-    if (faultKind != 0) {
-      return NONE;
+    if (!reader.readText(tape, length)) {
+      return noteFault(MALFORMED, reader.faultAt);
     }
-    faultPlace = NONE;
+    int kind = judge.findKind(tape);
+    if (kind != 0) {
+      return noteFault(kind, judge.faultAt);
+    }
+    if (!coder.makeProgram(spare) || !assembler.makeCode(spare)) {
+      return noteFault(TOO_LARGE, length);
+    }
+    noteFault(0, NONE);
     Program made = spare;
     spare = current;
     current = made;
     return current.rules;
   }
 
-  private int findFault(int length) {
-    if (!reader.readText(tape, length)) {
-      faultPlace = reader.faultAt;
-      return MALFORMED;
-    }
-    int kind = judge.findKind(tape);
-    if (kind != 0) {
-      faultPlace = judge.faultAt;
-      return kind;
-    }
-    if (!coder.makeProgram(spare) || !assembler.makeCode(spare)) {
-      faultPlace = length;
-      return TOO_LARGE;
-    }
-    return 0;
+  private int noteFault(int kind, int at) {
+    faultKind = kind;
+    faultPlace = at;
+    return NONE;
   }
 
   public int fault(int what) {
@@ -164,7 +159,8 @@ public final class MatchHouse {
   }
 
   private boolean armAt(int place, int stack) {
-    if (current.rules == 0 || stack < 1 || stack > STACK_LIMIT || place < 0 || place > subjectLength) {
+    boolean stackFits = stack >= 1 && stack <= STACK_LIMIT;
+    if (current.rules == 0 || !stackFits || place < 0 || place > subjectLength) {
       return false;
     }
     processor.takeCode(assembler.code, current.codeLength);
@@ -584,23 +580,32 @@ public final class MatchHouse {
     }
 
     private int readPrimary(int depth) {
+      int start = at;
       int s = sign();
-      switch (s) {
-        case '(':
-          return readGroup(depth, ')');
-        case '{':
-          return readCapture(depth);
-        case QUOTE:
-          return readLiteral();
-        case '[':
-          return readClass();
-        case '.':
-          at++;
-          return addPlain(0, 255);
-        default:
-          int start = at;
-          return readName() ? tree.add(Tree.NAME, NONE, at - start, start) : NONE;
+      if (s == '(' || s == '{') {
+        int number = tree.captures;
+        tree.captures += s == '{' ? 1 : 0;
+        if (depth >= DEPTH_LIMIT) {
+          return refuse();
+        }
+        at++;
+        int node = readChoice(depth + 1);
+        if (node == NONE || !takeSign(s == '(' ? ')' : '}')) {
+          return NONE;
+        }
+        return s == '(' ? node : tree.add(Tree.CAPTURE, node, number, 0);
       }
+      if (s == QUOTE) {
+        return readLiteral();
+      }
+      if (s == '[') {
+        return readClass();
+      }
+      if (s == '.') {
+        at++;
+        return addPlain(0, 255);
+      }
+      return readName() ? tree.add(Tree.NAME, NONE, at - start, start) : NONE;
     }
 
     private int addPlain(int low, int high) {
@@ -609,22 +614,6 @@ public final class MatchHouse {
         tree.addBytes(node, low, high);
       }
       return node;
-    }
-
-    private int readGroup(int depth, int closing) {
-      if (depth >= DEPTH_LIMIT) {
-        return refuse();
-      }
-      at++;
-      int node = readChoice(depth + 1);
-      return node != NONE && takeSign(closing) ? node : NONE;
-    }
-
-    private int readCapture(int depth) {
-      int number = tree.captures;
-      tree.captures++;
-      int node = readGroup(depth, '}');
-      return node == NONE ? NONE : tree.add(Tree.CAPTURE, node, number, 0);
     }
 
     private int readLiteral() {
@@ -656,7 +645,12 @@ public final class MatchHouse {
         int high = low;
         if (low != NONE && sign() == '-') {
           at++;
-          high = readBound(low);
+          int start = at;
+          high = readByte(true);
+          if (high != NONE && high < low) {
+            at = start;
+            return refuse();
+          }
         }
         if (high == NONE || node == NONE) {
           return NONE;
@@ -668,16 +662,6 @@ public final class MatchHouse {
         tree.turnBytes(node);
       }
       return node;
-    }
-
-    private int readBound(int low) {
-      int start = at;
-      int high = readByte(true);
-      if (high != NONE && high < low) {
-        faultAt = start;
-        return NONE;
-      }
-      return high;
     }
 
     private int readByte(boolean inClass) {
@@ -1346,6 +1330,12 @@ public final class MatchHouse {
     static final int LIMIT = 61440;
     private static final int BUNDLE = 32;
     private static final int NOP = 144;
+    private static final int HALT = 244;
+    private static final int INC = 64;
+    private static final int DEC = 72;
+    private static final int READ = 139;
+    private static final int WRITE = 137;
+    private static final int WRITE_NUMBER = 199;
     private static final int JUMP_LIMIT = 3 * Program.LIMIT + 10;
     private static final int EAX = 0;
     private static final int ECX = 1;
@@ -1431,97 +1421,99 @@ public final class MatchHouse {
       jumps = 0;
       for (int i = 0; i < laid.length; i++) {
         if (aligned[i] != 0) {
-          padTo(BUNDLE);
+          keepRoom(BUNDLE);
         }
         label = i;
-        layInstruction(i);
+        if (laid.op[i] < Program.JUMP) {
+          layTaking(i);
+        } else {
+          layControl(i);
+        }
       }
+      label = Program.TO_FAIL;
       layFail();
-      layEnd(Program.TO_NO, -1);
-      layEnd(Program.TO_OVER, -2);
+      layGo();
+      label = Program.TO_NO;
+      layEnd(-1);
+      label = Program.TO_OVER;
+      layEnd(-2);
     }
 
-    private void layInstruction(int i) {
+    /** What looks at the next byte. */
+    private void layTaking(int i) {
+      int op = laid.op[i];
       int arg = laid.arg[i];
+      int goal = op >= Program.TESTCHAR ? laid.target[i] : op == Program.SPAN ? i + 1 : Program.TO_FAIL;
+      layLimit();
+      layJump(NOT_BELOW, goal);
+      if (op != Program.ANY && op != Program.TESTANY) {
+        layNext();
+      }
+      if (op == Program.CHAR || op == Program.TESTCHAR) {
+        layNumber(CMP, EAX, arg);
+        layJump(UNEQUAL, goal);
+      } else if (laid.usesSet(i)) {
+        layIn(arg);
+        layJump(NOT_BELOW, goal);
+      }
+      if (op < Program.TESTCHAR) {
+        layOne(INC + EBX);
+      }
+      if (op == Program.SPAN) {
+        layJump(ALWAYS, i);
+      }
+    }
+
+    private void layControl(int i) {
       int goal = laid.target[i];
       switch (laid.op[i]) {
-        case Program.CHAR:
-          layCompare(arg, Program.TO_FAIL);
-          layOne(67);
-          break;
-        case Program.SET:
-          layNext(Program.TO_FAIL);
-          layIn(arg, Program.TO_FAIL);
-          layOne(67);
-          break;
-        case Program.ANY:
-          layAtEnd(Program.TO_FAIL);
-          layOne(67);
-          break;
-        case Program.SPAN:
-          layNext(i + 1);
-          layIn(arg, i + 1);
-          layOne(67);
-          layJump(ALWAYS, i);
-          break;
-        case Program.TESTCHAR:
-          layCompare(arg, goal);
-          break;
-        case Program.TESTSET:
-          layNext(goal);
-          layIn(arg, goal);
-          break;
-        case Program.TESTANY:
-          layAtEnd(goal);
-          break;
-        case Program.OPEN:
-          layEvent(2 * arg);
-          break;
-        case Program.CLOSE:
-          layEvent(2 * arg + 1);
-          break;
-        default:
-          layControl(i, goal);
-          break;
-      }
-    }
-
-    private void layControl(int i, int goal) {
-      switch (laid.op[i]) {
-        case Program.JUMP:
-          layJump(ALWAYS, goal);
-          break;
         case Program.CHOICE:
           layChoice(goal);
+          layEntry();
+          break;
+        case Program.CALL:
+          layCall(i + 1);
+          layEntry();
           break;
         case Program.COMMIT:
           layNumber(SUB, ESI, 16);
-          layOne(69);
-          layJump(ALWAYS, goal);
+          layOne(INC + EBP);
           break;
         case Program.PARTIAL:
-          layPartial(goal);
+          layPartial();
           break;
         case Program.BACKCOMMIT:
-          layBackCommit(goal);
+          layBackCommit();
           break;
         case Program.FAILTWICE:
           layNumber(SUB, ESI, 16);
-          layJump(ALWAYS, Program.TO_FAIL);
-          break;
-        case Program.FAIL:
-          layJump(ALWAYS, Program.TO_FAIL);
-          break;
-        case Program.CALL:
-          layCall(i + 1, goal);
           break;
         case Program.RET:
           layReturn();
+          layGo();
+          break;
+        case Program.OPEN:
+          layEvent(2 * laid.arg[i]);
+          break;
+        case Program.CLOSE:
+          layEvent(2 * laid.arg[i] + 1);
+          break;
+        case Program.END:
+          layCopy(EAX, EBX);
+          layOne(HALT);
           break;
         default:
-          layCopy(EAX, EBX);
-          layOne(244);
           break;
+      }
+      layLeap(laid.op[i], goal);
+    }
+
+    /** The jmp that most of what does not look at a byte ends with. */
+    private void layLeap(int op, int goal) {
+      if (op == Program.FAIL || op == Program.FAILTWICE) {
+        layJump(ALWAYS, Program.TO_FAIL);
+      } else if (goal != NONE && op != Program.CHOICE) {
+        layJump(ALWAYS, goal);
       }
     }
 
@@ -1538,16 +1530,12 @@ public final class MatchHouse {
       }
     }
 
-    private void padTo(int step) {
-      for (int k = 0; k < step && position % step != 0; k++) {
-        layByte(NOP);
-      }
-    }
-
     /** Room for n bytes in one bundle; a label is what stands behind the nops. */
     private void keepRoom(int n) {
       if (position % BUNDLE + n > BUNDLE) {
-        padTo(BUNDLE);
+        for (int k = position % BUNDLE; k < BUNDLE; k++) {
+          layByte(NOP);
+        }
       }
       if (label != NONE) {
         laid.place[label] = position;
@@ -1567,7 +1555,7 @@ public final class MatchHouse {
 
     private void layCopy(int to, int from) {
       keepRoom(2);
-      layByte(137);
+      layByte(WRITE);
       layByte(second(3, from, to));
     }
 
@@ -1584,20 +1572,12 @@ public final class MatchHouse {
       layWord(v);
     }
 
-    /** An instruction whose memory is at eax and a number more. */
-    private void layMemory(int opcode, int reg, int v) {
+    /** Reads or writes DATA at eax and so much more. */
+    private void layMemory(int opcode, int reg, int offset) {
       keepRoom(6);
       layByte(opcode);
       layByte(second(2, reg, EAX));
-      layWord(v);
-    }
-
-    private void layRead(int reg, int offset) {
-      layMemory(139, reg, DATA + offset);
-    }
-
-    private void layWrite(int reg, int offset) {
-      layMemory(137, reg, DATA + offset);
+      layWord(DATA + offset);
     }
 
     private void layJump(int c, int goal) {
@@ -1624,16 +1604,14 @@ public final class MatchHouse {
       layWord(far);
     }
 
-    private void layAtEnd(int goal) {
+    private void layLimit() {
       keepRoom(6);
       layByte(59);
       layByte(second(0, EBX, 5));
       layWord(LENGTH_AT);
-      layJump(NOT_BELOW, goal);
     }
 
-    private void layNext(int goal) {
-      layAtEnd(goal);
+    private void layNext() {
       layCopy(EAX, EBX);
       keepRoom(13);
       layNumber(AND, EAX, 65535);
@@ -1643,13 +1621,7 @@ public final class MatchHouse {
       layWord(DATA);
     }
 
-    private void layCompare(int b, int goal) {
-      layNext(goal);
-      layNumber(CMP, EAX, b);
-      layJump(UNEQUAL, goal);
-    }
-
-    private void layIn(int s, int goal) {
+    private void layIn(int s) {
       layCopy(ECX, EAX);
       keepRoom(3);
       layByte(193);
@@ -1662,12 +1634,11 @@ public final class MatchHouse {
       layWord(4096 + 32 * s);
       keepRoom(12);
       layNumber(AND, EAX, 65532);
-      layRead(EAX, 0);
+      layMemory(READ, EAX, 0);
       keepRoom(3);
       layByte(15);
       layByte(163);
       layByte(second(3, ECX, EAX));
-      layJump(NOT_BELOW, goal);
     }
 
     private void layGo() {
@@ -1678,13 +1649,9 @@ public final class MatchHouse {
       layByte(second(3, 4, ECX));
     }
 
-    private void layEntryMade() {
+    private void layEntry() {
       layNumber(ADD, ESI, 16);
-      layMeter();
-    }
-
-    private void layMeter() {
-      layOne(77);
+      layOne(DEC + EBP);
       layJump(SIGNED, Program.TO_OVER);
     }
 
@@ -1693,39 +1660,33 @@ public final class MatchHouse {
       layLoadNumber(ECX, laid.place[goal]);
       keepRoom(30);
       layNumber(AND, EAX, STACK_MASK);
-      layWrite(ECX, 0);
-      layWrite(EBX, 4);
-      layWrite(EDI, 8);
-      layWrite(EBP, 12);
-      layEntryMade();
+      layMemory(WRITE, ECX, 0);
+      layMemory(WRITE, EBX, 4);
+      layMemory(WRITE, EDI, 8);
+      layMemory(WRITE, EBP, 12);
     }
 
-    private void layCall(int behind, int goal) {
+    private void layCall(int behind) {
       layCopy(EAX, ESI);
       layLoadNumber(ECX, laid.place[behind]);
       keepRoom(28);
       layNumber(AND, EAX, STACK_MASK);
-      layWrite(ECX, 0);
-      layByte(199);
-      layByte(second(2, 0, EAX));
-      layWord(DATA + 4);
+      layMemory(WRITE, ECX, 0);
+      layMemory(WRITE_NUMBER, 0, 4);
       layWord(-1);
-      layWrite(EBP, 12);
-      layEntryMade();
-      layJump(ALWAYS, goal);
+      layMemory(WRITE, EBP, 12);
     }
 
     private void layReturn() {
       layNumber(SUB, ESI, 16);
-      layOne(69);
+      layOne(INC + EBP);
       layCopy(EAX, ESI);
       keepRoom(12);
       layNumber(AND, EAX, STACK_MASK);
-      layRead(ECX, 0);
-      layGo();
+      layMemory(READ, ECX, 0);
     }
 
-    private void layPartial(int goal) {
+    private void layPartial() {
       layCopy(EAX, ESI);
       layNumber(SUB, EAX, 16);
       keepRoom(6);
@@ -1734,21 +1695,19 @@ public final class MatchHouse {
       layWord(1);
       keepRoom(24);
       layNumber(AND, EAX, STACK_MASK);
-      layWrite(EBX, 4);
-      layWrite(EDI, 8);
-      layWrite(ECX, 12);
-      layJump(ALWAYS, goal);
+      layMemory(WRITE, EBX, 4);
+      layMemory(WRITE, EDI, 8);
+      layMemory(WRITE, ECX, 12);
     }
 
-    private void layBackCommit(int goal) {
+    private void layBackCommit() {
       layNumber(SUB, ESI, 16);
       layCopy(EAX, ESI);
       keepRoom(24);
       layNumber(AND, EAX, STACK_MASK);
-      layRead(EBX, 4);
-      layRead(EDI, 8);
-      layRead(EBP, 12);
-      layJump(ALWAYS, goal);
+      layMemory(READ, EBX, 4);
+      layMemory(READ, EDI, 8);
+      layMemory(READ, EBP, 12);
     }
 
     private void layEvent(int number) {
@@ -1756,34 +1715,32 @@ public final class MatchHouse {
       layLoadNumber(ECX, number);
       keepRoom(18);
       layNumber(AND, EAX, 65528);
-      layWrite(ECX, 0);
-      layWrite(EBX, 4);
+      layMemory(WRITE, ECX, 0);
+      layMemory(WRITE, EBX, 4);
       layNumber(ADD, EDI, 8);
-      layMeter();
+      layOne(DEC + EBP);
+      layJump(SIGNED, Program.TO_OVER);
     }
 
     private void layFail() {
-      label = Program.TO_FAIL;
       layNumber(CMP, ESI, STACK_AT);
       layJump(EQUAL, Program.TO_NO);
       layNumber(SUB, ESI, 16);
       layCopy(EAX, ESI);
       keepRoom(30);
       layNumber(AND, EAX, STACK_MASK);
-      layRead(ECX, 0);
-      layRead(EBX, 4);
-      layRead(EDX, 8);
-      layRead(EBP, 12);
+      layMemory(READ, ECX, 0);
+      layMemory(READ, EBX, 4);
+      layMemory(READ, EDX, 8);
+      layMemory(READ, EBP, 12);
       layNumber(CMP, EBX, -1);
       layJump(EQUAL, Program.TO_FAIL);
       layCopy(EDI, EDX);
-      layGo();
     }
 
-    private void layEnd(int name, int answer) {
-      label = name;
+    private void layEnd(int answer) {
       layLoadNumber(EAX, answer);
-      layOne(244);
+      layOne(HALT);
     }
   }
 
@@ -1998,36 +1955,26 @@ public final class MatchHouse {
           kind = SIGN;
           break;
         case 0xC1:
-          decodeShift(SHIFT);
-          number = nextByte();
-          break;
         case 0xD1:
-          decodeShift(SHIFT);
-          number = 1;
-          break;
         case 0xD3:
-          decodeShift(SHIFT_ECX);
+          decodeM(opcode == 0xD3 ? SHIFT_ECX : SHIFT);
+          n = reg;
+          number = opcode == 0xC1 ? nextByte() : 1;
+          refuseIf(n == 2 || n == 3 || n == 6);
           break;
         case 0xC6:
-          decodeM(MOVE_NUMBER);
-          width = 1;
-          number = nextByte();
-          refuseIf(reg != 0);
-          break;
         case 0xC7:
           decodeM(MOVE_NUMBER);
-          number = nextWord();
+          width = opcode == 0xC6 ? 1 : 4;
+          number = opcode == 0xC6 ? nextByte() : nextWord();
           refuseIf(reg != 0);
           break;
         case 0xC3:
           kind = RET;
           break;
         case 0xE8:
-          kind = CALL;
-          number = nextWord();
-          break;
         case 0xE9:
-          kind = JUMP;
+          kind = opcode == 0xE8 ? CALL : JUMP;
           number = nextWord();
           break;
         case 0xEB:
@@ -2038,48 +1985,40 @@ public final class MatchHouse {
           kind = HALT;
           break;
         case 0xF7:
-          decodeUnary();
+          decodeM(UNKNOWN);
+          kind = unaryKind(reg);
+          number = kind == TEST_NUMBER ? nextWord() : 0;
           break;
         case 0xFF:
-          decodeLast();
+          decodeM(UNKNOWN);
+          kind = lastKind(reg);
           break;
         default:
           break;
       }
     }
 
-    private void decodeShift(int found) {
-      decodeM(found);
-      n = reg;
-      refuseIf(n == 2 || n == 3 || n == 6);
-    }
-
-    private void decodeUnary() {
-      decodeM(UNKNOWN);
-      switch (reg) {
-        case 0:
-          kind = TEST_NUMBER;
-          number = nextWord();
-          break;
-        case 2: kind = NOT; break;
-        case 3: kind = NEG; break;
-        case 4: kind = MUL; break;
-        case 5: kind = IMUL; break;
-        case 6: kind = DIV; break;
-        case 7: kind = IDIV; break;
-        default: break;
+    private static int unaryKind(int n) {
+      switch (n) {
+        case 0: return TEST_NUMBER;
+        case 2: return NOT;
+        case 3: return NEG;
+        case 4: return MUL;
+        case 5: return IMUL;
+        case 6: return DIV;
+        case 7: return IDIV;
+        default: return UNKNOWN;
       }
     }
 
-    private void decodeLast() {
-      decodeM(UNKNOWN);
-      switch (reg) {
-        case 0: kind = INC; break;
-        case 1: kind = DEC; break;
-        case 2: kind = CALL_M; break;
-        case 4: kind = JUMP_M; break;
-        case 6: kind = PUSH; break;
-        default: break;
+    private static int lastKind(int n) {
+      switch (n) {
+        case 0: return INC;
+        case 1: return DEC;
+        case 2: return CALL_M;
+        case 4: return JUMP_M;
+        case 6: return PUSH;
+        default: return UNKNOWN;
       }
     }
 
@@ -2693,7 +2632,6 @@ public final class MatchHouse {
     }
 
     private boolean isSound(int at) {
-      now.decode(code, length, at);
       return now.kind != Decoder.UNKNOWN && at + now.size <= length;
     }
 
@@ -2704,7 +2642,11 @@ public final class MatchHouse {
     private void findGoals() {
       Arrays.fill(starts, 0);
       Arrays.fill(goals, 0);
-      for (int at = 0; at < length && isSound(at); at += now.size) {
+      for (int at = 0; at < length; at += now.size) {
+        now.decode(code, length, at);
+        if (!isSound(at)) {
+          return;
+        }
         addBit(starts, at);
         int goal = at + now.size + now.number;
         if (jumpsByNumber() && goal >= 0 && goal < length) {
@@ -2716,11 +2658,11 @@ public final class MatchHouse {
     private void findRefused() {
       dropAll();
       for (int at = 0; at < length; at += now.size) {
-        boolean sound = isSound(at);
+        now.decode(code, length, at);
         if (at % BUNDLE == 0 || hasBit(goals, at)) {
           dropAll();
         }
-        reason = sound ? reasonAt(at) : UNSOUND;
+        reason = isSound(at) ? reasonAt(at) : UNSOUND;
         if (reason != 0) {
           refusedAt = at;
           return;
