@@ -1164,14 +1164,17 @@ public final class MatchHouse {
       }
     }
 
-    /** CHAR, SET, ANY, or the three TESTs, which are numbered likewise from TESTCHAR on. */
+    /**
+     * CHAR, SET, ANY, or the three TESTs, which are numbered likewise from TESTCHAR on. (Of a word
+     * with one bit, the word less 1 has as many bits as stand below it.)
+     */
     private void writeByBytes(int at, int node, int charOp, int target) {
       int bytes = 0;
       int one = 0;
       for (int w = 0; w < 8; w++) {
         int word = tree.first[8 * node + w];
         if (word != 0) {
-          one = 32 * w + Integer.numberOfTrailingZeros(word);
+          one = 32 * w + Integer.bitCount(word - 1);
         }
         bytes += Integer.bitCount(word);
       }
@@ -2461,8 +2464,12 @@ public final class MatchHouse {
     }
 
     private void divideSigned(long by) {
+      if (by == 0) {
+        stop = DIVIDE;
+        return;
+      }
       long whole = (long) registers[EDX] << 32 | registers[EAX] & LOW;
-      long quotient = by == 0 ? Long.MAX_VALUE : whole / by;
+      long quotient = whole / by;
       if (quotient != (int) quotient) {
         stop = DIVIDE;
         return;
@@ -2631,20 +2638,17 @@ public final class MatchHouse {
       bits[at >> 5] |= 1 << (at & 31);
     }
 
-    private boolean isSound(int at) {
-      return now.kind != Decoder.UNKNOWN && at + now.size <= length;
-    }
-
     private boolean jumpsByNumber() {
       return now.kind == Decoder.JUMP || now.kind == Decoder.JUMP_IF;
     }
 
+    /** One that goes beyond the image's end is an instruction, too; an unknown one is none. */
     private void findGoals() {
       Arrays.fill(starts, 0);
       Arrays.fill(goals, 0);
       for (int at = 0; at < length; at += now.size) {
         now.decode(code, length, at);
-        if (!isSound(at)) {
+        if (now.kind == Decoder.UNKNOWN) {
           return;
         }
         addBit(starts, at);
@@ -2662,7 +2666,7 @@ public final class MatchHouse {
         if (at % BUNDLE == 0 || hasBit(goals, at)) {
           dropAll();
         }
-        reason = isSound(at) ? reasonAt(at) : UNSOUND;
+        reason = reasonAt(at);
         if (reason != 0) {
           refusedAt = at;
           return;
@@ -2678,6 +2682,9 @@ public final class MatchHouse {
     }
 
     private int reasonAt(int at) {
+      if (now.kind == Decoder.UNKNOWN || at + now.size > length) {
+        return UNSOUND;
+      }
       if (at / BUNDLE != (at + now.size - 1) / BUNDLE) {
         return SPLIT;
       }

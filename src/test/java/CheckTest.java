@@ -138,6 +138,12 @@ public final class CheckTest {
     due(house, nops(31) + "ff 25 00 00 02 00", 2, 31);
     due(house, nops(30) + "ff 35 00 00 02 00 06", 2, 30);
     due(house, "75 05 50 06", 3, 2);
+    // One that goes beyond the end is an instruction, an unknown one is none.
+    due(house, "75 00 b8 00 00", 1, 2);
+    due(house, "75 00 06", 6, 0);
+    due(house, "75 01 90 b8 00 00", 1, 3);
+    due(house, "75 02 90 b8 00 00", 6, 0);
+    due(house, "83 e0 7f 8b 80 00 00 02 00 90 90 90 90 eb", 4, 3);
   }
 
   private static void number(ByteArrayOutputStream out, int v) {
