@@ -293,6 +293,7 @@ public final class MatchHouse {
     final int[] first = new int[8 * LIMIT];
     final int[] ruleAt = new int[RULE_LIMIT];
     final int[] ruleSize = new int[RULE_LIMIT];
+    final int[] ruleEnd = new int[RULE_LIMIT];
     final int[] root = new int[RULE_LIMIT];
     int nodes = 0;
     int rules = 0;
@@ -433,6 +434,7 @@ public final class MatchHouse {
       if (tree.root[k] == NONE || !takeSign(';')) {
         return false;
       }
+      tree.ruleEnd[k] = tree.nodes;
       tree.rules = k + 1;
       return true;
     }
@@ -715,8 +717,6 @@ public final class MatchHouse {
     private static final int ENDLESS = 4;
     // Each pass but the last finds a fact more of some rule, of which there are three.
     private static final int FACT_PASSES = 3 * Tree.RULE_LIMIT + 2;
-    // No rule is left here, so a rule's bytes need those of fewer rules than there are.
-    private static final int FIRST_PASSES = Tree.RULE_LIMIT + 2;
 
     private final Tree tree;
     private final long[] begins = new long[Tree.LIMIT];
@@ -891,36 +891,37 @@ public final class MatchHouse {
       }
     }
 
+    /**
+     * No rule is left here, so one that another begins with reaches fewer rules than that: in this
+     * order the roots are whole after one pass, and what stands further behind after a second.
+     */
     private void findFirsts() {
-      boolean changed = true;
-      for (int pass = 0; pass < FIRST_PASSES && changed; pass++) {
-        changed = false;
-        for (int i = 0; i < tree.nodes; i++) {
-          changed |= takesFirst(i);
+      for (int reached = 0; reached < tree.rules; reached++) {
+        for (int k = 0; k < tree.rules; k++) {
+          if (Long.bitCount(reach[k]) == reached) {
+            takeFirsts(k == 0 ? 0 : tree.ruleEnd[k - 1], tree.ruleEnd[k]);
+          }
+        }
+      }
+      takeFirsts(0, tree.nodes);
+    }
+
+    private void takeFirsts(int from, int to) {
+      for (int i = from; i < to; i++) {
+        int kind = tree.kind[i];
+        if (kind > Tree.PLAIN && kind != Tree.AND && kind != Tree.NOT) {
+          joinFirst(i, kind == Tree.NAME ? tree.root[tree.left[i]] : tree.left[i]);
+          if (goesRight(i)) {
+            joinFirst(i, tree.right[i]);
+          }
         }
       }
     }
 
-    private boolean takesFirst(int i) {
-      int kind = tree.kind[i];
-      if (kind <= Tree.PLAIN || kind == Tree.AND || kind == Tree.NOT) {
-        return false;
-      }
-      boolean more = joinFirst(i, kind == Tree.NAME ? tree.root[tree.left[i]] : tree.left[i]);
-      if (goesRight(i)) {
-        more |= joinFirst(i, tree.right[i]);
-      }
-      return more;
-    }
-
-    private boolean joinFirst(int to, int from) {
-      int change = 0;
+    private void joinFirst(int to, int from) {
       for (int w = 0; w < 8; w++) {
-        int all = tree.first[8 * to + w] | tree.first[8 * from + w];
-        change |= all ^ tree.first[8 * to + w];
-        tree.first[8 * to + w] = all;
+        tree.first[8 * to + w] |= tree.first[8 * from + w];
       }
-      return change != 0;
     }
   }
 
@@ -1309,13 +1310,18 @@ public final class MatchHouse {
       return true;
     }
 
+    private boolean isSet(int s, int node) {
+      for (int w = 0; w < 8; w++) {
+        if (made.sets[8 * s + w] != tree.first[8 * node + w]) {
+          return false;
+        }
+      }
+      return true;
+    }
+
     private int setNumber(int node) {
       for (int s = 0; s < made.setCount; s++) {
-        int unlike = 0;
-        for (int w = 0; w < 8; w++) {
-          unlike |= made.sets[8 * s + w] ^ tree.first[8 * node + w];
-        }
-        if (unlike == 0) {
+        if (isSet(s, node)) {
           return s;
         }
       }
@@ -1528,6 +1534,10 @@ public final class MatchHouse {
     }
 
     private void layWord(int v) {
+      if (!writing) {
+        position += 4;
+        return;
+      }
       for (int shift = 0; shift < 32; shift += 8) {
         layByte(v >> shift);
       }
@@ -1852,8 +1862,18 @@ public final class MatchHouse {
     }
 
     private int nextWord() {
-      int low = nextByte() | nextByte() << 8;
-      return low | nextByte() << 16 | nextByte() << 24;
+      int start = at;
+      at += 4;
+      if (start >= 0 && at <= length) {
+        return code[start] & 255 | (code[start + 1] & 255) << 8 | (code[start + 2] & 255) << 16
+            | code[start + 3] << 24;
+      }
+      int v = 0;
+      for (int k = 0; k < 4; k++) {
+        int b = start + k < length ? code[start + k] & 255 : BEHIND;
+        v |= b << 8 * k;
+      }
+      return v;
     }
 
     private void decodeArithmetic() {
@@ -2070,36 +2090,38 @@ public final class MatchHouse {
       flags = on ? flags | flag : flags & ~flag;
     }
 
-    private int settle(int result) {
-      int shown = flags & ~(P | Z | S);
-      shown |= result == 0 ? Z : 0;
-      shown |= result < 0 ? S : 0;
-      shown |= (Integer.bitCount(result & 255) & 1) == 0 ? P : 0;
-      flags = shown;
-      return result;
+    /** The flags that a result shows by itself. */
+    private static int shownBy(int result) {
+      int shown = (Integer.bitCount(result & 255) & 1) == 0 ? P : 0;
+      if (result == 0) {
+        return shown | Z;
+      }
+      return result < 0 ? shown | S : shown;
     }
 
     int sum(int a, int b, int carry) {
       long whole = (a & LOW) + (b & LOW) + carry;
       int result = (int) whole;
-      note(C, whole > LOW);
-      note(A, (a & 15) + (b & 15) + carry > 15);
-      note(O, (long) a + b + carry != result);
-      return settle(result);
+      int carried = whole > LOW ? C : 0;
+      int half = (a & 15) + (b & 15) + carry > 15 ? A : 0;
+      int over = (long) a + b + carry != result ? O : 0;
+      flags = carried | half | over | shownBy(result);
+      return result;
     }
 
     int difference(int a, int b, int borrow) {
       long whole = (a & LOW) - (b & LOW) - borrow;
       int result = (int) whole;
-      note(C, whole < 0);
-      note(A, (a & 15) - (b & 15) - borrow < 0);
-      note(O, (long) a - b - borrow != result);
-      return settle(result);
+      int borrowed = whole < 0 ? C : 0;
+      int half = (a & 15) - (b & 15) - borrow < 0 ? A : 0;
+      int over = (long) a - b - borrow != result ? O : 0;
+      flags = borrowed | half | over | shownBy(result);
+      return result;
     }
 
     int logic(int result) {
-      flags &= ~(C | O | A);
-      return settle(result);
+      flags = shownBy(result);
+      return result;
     }
 
     /** For cmp the answer is what would be written, were it a sub. */
@@ -2128,8 +2150,7 @@ public final class MatchHouse {
         result = n < 4 ? turnOnce(n, result) : shiftOnce(n, result);
       }
       if ((by & 31) != 0 && n >= 4) {
-        note(A, false);
-        settle(result);
+        flags = flags & (C | O) | shownBy(result);
       }
       return result;
     }
