@@ -9,6 +9,7 @@ public final class ProcessorTest {
     long seed = args.length > 1 ? Long.parseLong(args[1]) : 1;
     int[] stops = new int[6];
     MatchHouse house = new MatchHouse();
+    fill(house, new Random(seed));
     for (int k = 0; k < rounds && DUES.wrong() == 0; k++) {
       play(house, new Random(seed * 1000003 + k), stops);
     }
@@ -17,6 +18,13 @@ public final class ProcessorTest {
     }
     System.out.println("stops: " + java.util.Arrays.toString(stops));
     DUES.finish();
+  }
+
+  /** No byte of DATA is 0 by chance, so that each one that is written too much shows. */
+  private static void fill(MatchHouse house, Random random) {
+    for (int at = 0; at < 65536; at += 4) {
+      DUES.due("store", house.store(at, random.nextInt()), true);
+    }
   }
 
   static byte[] randomCode(Random random, int most) {

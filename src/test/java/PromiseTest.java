@@ -366,6 +366,12 @@ public final class PromiseTest {
     due("the span's", other.set(2, 3), 1 << 17);
     due("the last part's", other.set(3, 3), 1 << 24 | 1 << 25);
     due("set(1, 8)", house.set(1, 8), 0);
+    due("set(0, 8)", house.set(0, 8), 0);
+    due("set(2, -8)", house.set(2, -8), 0);
+    Dues.grammar(house, "a=[ab];");
+    Dues.grammar(house, "a=[ab];");
+    due("a set of a grammar that was", house.set(1, 0), 0);
+    Dues.grammar(house, "a=[ab][^ab][];");
     for (int odd : ODD) {
       due("set(odd, 0)", house.set(odd, 0), 0);
       due("set(1, odd)", house.set(1, odd), 0);
