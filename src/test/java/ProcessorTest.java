@@ -10,6 +10,7 @@ public final class ProcessorTest {
     int[] stops = new int[6];
     MatchHouse house = new MatchHouse();
     fill(house, new Random(seed));
+    grid(house);
     for (int k = 0; k < rounds && DUES.wrong() == 0; k++) {
       play(house, new Random(seed * 1000003 + k), stops);
     }
@@ -18,6 +19,47 @@ public final class ProcessorTest {
     }
     System.out.println("stops: " + java.util.Arrays.toString(stops));
     DUES.finish();
+  }
+
+  private static final String[] FORMS = {"01 c8", "09 c8", "11 c8", "19 c8", "21 c8", "29 c8",
+      "31 c8", "39 c8", "03 c1", "40", "48", "ff c0", "ff c8", "85 c8", "f7 d0", "f7 d8", "f7 e1",
+      "f7 e9", "f7 f1", "f7 f9", "0f af c1", "c1 c0 05", "c1 c8 1f", "c1 e0 20", "c1 e8 01",
+      "c1 f8 07", "d1 c0", "d1 c8", "d1 e0", "d1 e8", "d1 f8", "d3 c0", "d3 c8", "d3 e0", "d3 e8",
+      "d3 f8", "0f a3 c8", "99", "0f c8", "0f b6 c4", "0f be c4", "0f be c1", "87 c1", "88 e1",
+      "8a cc", "54", "5c", "0f 4c c1", "0f 9e c4", "83 d0 ff", "83 d8 00", "8d 44 88 80"};
+
+  /** Each of some instructions on all pairs of numbers at which flags change. */
+  private static void grid(MatchHouse house) {
+    int[] numbers = {0, 1, 2, 3, 6, 15, 16, 31, 32, 127, 128, 255, 32768, 65536, 196600, 1 << 30,
+        Integer.MAX_VALUE, Integer.MIN_VALUE, Integer.MIN_VALUE + 1, -2, -1, -16};
+    for (String form : FORMS) {
+      byte[] code = Dues.hex(form);
+      Reference due = new Reference(code);
+      Dues.tape(house, code);
+      house.place();
+      for (int a : numbers) {
+        for (int b : numbers) {
+          int edx = form.startsWith("f7 f9") ? a >> 31 : b > 3 ? 0 : 2;
+          int[] all = {a, b, edx, 4, 131080, 5, 6, 7};
+          for (int r = 0; r < 8; r++) {
+            due.regs[r] = all[r];
+            house.put(r, all[r]);
+          }
+          due.flags = (a ^ b) & 1;
+          house.put(8, due.flags);
+          due.eip = 65536;
+          due.stop = 0;
+          house.begin(0);
+          for (int at = 4; at < 12; at++) {
+            due.data[at] = (byte) (house.load(at));
+          }
+          String call = form + " of " + a + ", " + b;
+          DUES.due(call, house.run(1), due.step() ? 1 : 0);
+          compare(house, due, call);
+          DUES.due(call + " pushed", house.load(4), due.read(131076, 4));
+        }
+      }
+    }
   }
 
   /** No byte of DATA is 0 by chance, so that each one that is written too much shows. */

@@ -201,7 +201,16 @@ public final class PromiseTest {
     due("129 sets", Dues.grammar(house, sets + "[\\xff\\x80];"), -1);
     due("kind of 129", house.fault(0), 5);
     due("count(2) stays", house.count(2), 128);
-    // 61440 bytes: many calls, three bundles each.
+    // An image ends with OVER, six bytes behind whole bundles: 61414 is the most that goes.
+    String full = "a=" + rows("b ", 636);
+    due("an image of 61414", Dues.grammar(house, full + "'x';b='x';"), 2);
+    due("count(3) of it", house.count(3), 61414);
+    due("image(61413)", house.image(61413), 244);
+    due("image(61414)", house.image(61414), -1);
+    due("an image of a bundle more", Dues.grammar(house, full + "'xx';b='x';"), -1);
+    due("kind of a bundle more", house.fault(0), 5);
+    due("count(3) stays", house.count(3), 61414);
+    // Many calls, three bundles each.
     int calls = 600;
     String text = "";
     for (int many = 600; many < 700; many++) {
@@ -491,6 +500,17 @@ public final class PromiseTest {
     due("peak stays", house.peak(), 63);
     due("match that is over", house.match(0, 62), -3);
     due("match of less", house.match(14, 1000), 0);
+    // 300000 steps, then HLT, which is not tried; and 299999.
+    String row = "a=(&(.*).)*" + rows("'q'?", 635);
+    long[] steps = {300000, 299999};
+    for (int k = 0; k < 2; k++) {
+      house = with(row + (k == 0 ? ".?;" : "[qr]?;"));
+      Dues.subject(house, rows("x", 139));
+      house.arm(0, 1000);
+      due("steps", (long) house.run(100000) + house.run(100000) + house.run(100000), steps[k]);
+      due("match of " + steps[k] + " steps", house.match(0, 1000), k == 0 ? -4 : 139);
+      due("its stop", house.get(10), k);
+    }
   }
 
   private static void peaksAndEvents() {
@@ -579,6 +599,11 @@ public final class PromiseTest {
     due("run(1) at HLT", house.run(1), 0);
     due("stop", house.get(10), 1);
     due("run(5) with a stop", house.run(5), 0);
+    due("begin(0)", house.begin(0), true);
+    due("eip of begin(0)", house.get(9), 65536);
+    due("no stop of begin(0)", house.get(10), 0);
+    house.begin(3);
+    house.run(1);
     due("begin(65536)", house.begin(65536), false);
     due("begin(-1)", house.begin(-1), false);
     due("the stop stays", house.get(10), 1);
