@@ -155,10 +155,6 @@ public final class MatchHouse {
   }
 
   public boolean arm(int place, int stack) {
-    return armAt(place, stack);
-  }
-
-  private boolean armAt(int place, int stack) {
     boolean stackFits = stack >= 1 && stack <= STACK_LIMIT;
     if (current.rules == 0 || !stackFits || place < 0 || place > subjectLength) {
       return false;
@@ -173,7 +169,7 @@ public final class MatchHouse {
   }
 
   public int match(int place, int stack) {
-    if (!armAt(place, stack)) {
+    if (!arm(place, stack)) {
       return NONE;
     }
     processor.makeSteps(STEP_LIMIT);
@@ -2667,7 +2663,7 @@ public final class MatchHouse {
     private void findGoals() {
       Arrays.fill(starts, 0);
       Arrays.fill(goals, 0);
-      for (int at = 0; at < length; at += now.size) {
+      for (int at = 0; at < length; at += Math.max(1, now.size)) {
         now.decode(code, length, at);
         if (now.kind == Decoder.UNKNOWN) {
           return;
@@ -2682,7 +2678,7 @@ public final class MatchHouse {
 
     private void findRefused() {
       dropAll();
-      for (int at = 0; at < length; at += now.size) {
+      for (int at = 0; at < length; at += Math.max(1, now.size)) {
         now.decode(code, length, at);
         if (at % BUNDLE == 0 || hasBit(goals, at)) {
           dropAll();

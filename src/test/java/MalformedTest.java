@@ -109,6 +109,12 @@ public final class MalformedTest {
     malformed(house, "1=;", 0);
     malformed(house, many("n", 21) + "=;", 20);
     malformed(house, "a=" + many("n", 21) + ";", 22);
+    wellFormed(house, "zZaA_09=_Z;_Z=Z_;Z_=A9;A9=a;a=;");
+    malformed(house, "a@=;", 1);
+    malformed(house, "a`=;", 1);
+    malformed(house, "a:=;", 1);
+    malformed(house, "a=a/;b/=;", 6);
+    malformed(house, "a=b\u00c0;", 3);
     wellFormed(house, many("n", 20) + "=;");
     StringBuilder rules = new StringBuilder();
     for (int k = 0; k < 60; k++) {

@@ -11,6 +11,7 @@ public final class ProcessorTest {
     MatchHouse house = new MatchHouse();
     fill(house, new Random(seed));
     grid(house);
+    conditions(house);
     for (int k = 0; k < rounds && DUES.wrong() == 0; k++) {
       play(house, new Random(seed * 1000003 + k), stops);
     }
@@ -62,6 +63,32 @@ public final class ProcessorTest {
     }
   }
 
+  /** All sixteen conditions with all FLAGS, in each instruction that has one. */
+  private static void conditions(MatchHouse house) {
+    String[] forms = {"0f %02x c1", "0f %02x c4", "%02x 05", "0f %02x 05 00 00 00"};
+    int[] firsts = {0x40, 0x90, 0x70, 0x80};
+    int[] bits = {1, 4, 16, 64, 128, 2048};
+    for (int k = 0; k < 64 * forms.length; k++) {
+      for (int c = 0; c < 16; c++) {
+        byte[] code = Dues.hex(String.format(forms[k / 64], firsts[k / 64] + c));
+        Reference due = new Reference(code);
+        Dues.tape(house, code);
+        house.place();
+        for (int r = 0; r < 8; r++) {
+          due.regs[r] = -5 - r;
+          house.put(r, due.regs[r]);
+        }
+        for (int f = 0; f < 6; f++) {
+          due.flags |= (k >> f & 1) != 0 ? bits[f] : 0;
+        }
+        house.put(8, due.flags);
+        String call = "condition " + c + " of " + forms[k / 64] + " with " + due.flags;
+        DUES.due(call, house.run(1), due.step() ? 1 : 0);
+        compare(house, due, call);
+      }
+    }
+  }
+
   /** No byte of DATA is 0 by chance, so that each one that is written too much shows. */
   private static void fill(MatchHouse house, Random random) {
     for (int at = 0; at < 65536; at += 4) {
@@ -106,7 +133,8 @@ public final class ProcessorTest {
     }
     int second = random.nextInt(256);
     second |= random.nextBoolean() ? 0xC0 : 0;
-    second &= opcode == 0xC7 || opcode == 0xC6 ? ~0x38 : ~0;
+    boolean puts = opcode == 0x0F && (code[i - 1] & 0xF0) == 0x90;
+    second &= puts || opcode == 0xC7 || opcode == 0xC6 ? ~0x38 : ~0;
     i = addByte(code, i, second);
     int more = random.nextInt(3) == 0 ? 0 : 1 + random.nextInt(5);
     if (random.nextInt(4) == 0) {
