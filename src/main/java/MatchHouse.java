@@ -1399,7 +1399,7 @@ public final class MatchHouse {
     private void markAligned() {
       Arrays.fill(aligned, (byte) 0);
       for (int i = 0; i < laid.length; i++) {
-        if (laid.op[i] == Program.CHOICE) {
+        if (laid.op[i] == Program.CHOICE && laid.target[i] != NONE) {
           aligned[laid.target[i]] = 1;
         }
         if (laid.op[i] == Program.CALL && i + 1 < laid.length) {
@@ -1448,7 +1448,8 @@ public final class MatchHouse {
     private void layTaking(int i) {
       int op = laid.op[i];
       int arg = laid.arg[i];
-      int goal = op >= Program.TESTCHAR ? laid.target[i] : op == Program.SPAN ? i + 1 : Program.TO_FAIL;
+      int other = op == Program.SPAN ? i + 1 : Program.TO_FAIL;
+      int goal = op >= Program.TESTCHAR ? laid.target[i] : other;
       layLimit();
       layJump(NOT_BELOW, goal);
       if (op != Program.ANY && op != Program.TESTANY) {

@@ -191,6 +191,16 @@ public final class PromiseTest {
     due("a grammar of 2001", Dues.grammar(house, more + ".;"), -1);
     due("kind", house.fault(0), 5);
     due("place", house.fault(1), more.length() + 2);
+    // Texts that are as full of parts as can be are well formed.
+    String[] dense = {rows(".", 3997), rows("/", 3997), "'" + rows("a", 3995) + "'",
+        rows("{}", 1998), rows("(/)", 1332), rows("!.", 1998), rows("(./.?)", 666)};
+    for (String text : dense) {
+      due("a dense text", Dues.grammar(house, "a=" + text + ";"), -1);
+      due("kind of a dense text " + text.substring(0, 6), house.fault(0), 5);
+      due("place of a dense text", house.fault(1), text.length() + 3);
+    }
+    due("nothing, often", Dues.grammar(house, "a=(" + rows("()", 1900) + ".)^9^9;"), 1);
+    due("count(1) of nothing, often", house.count(1), 84);
     // 128 sets, and 129; equal ones are one.
     StringBuilder sets = new StringBuilder("a=");
     for (int k = 0; k < 128; k++) {
