@@ -2656,17 +2656,21 @@ public final class MatchHouse {
       bits[at >> 5] |= 1 << (at & 31);
     }
 
+    /** Bytes behind the image's end are not the image's, so what needs them is no instruction. */
+    private boolean isInstruction(int at) {
+      return now.kind != Decoder.UNKNOWN && at + now.size <= length;
+    }
+
     private boolean jumpsByNumber() {
       return now.kind == Decoder.JUMP || now.kind == Decoder.JUMP_IF;
     }
 
-    /** One that goes beyond the image's end is an instruction, too; an unknown one is none. */
     private void findGoals() {
       Arrays.fill(starts, 0);
       Arrays.fill(goals, 0);
       for (int at = 0; at < length; at += Math.max(1, now.size)) {
         now.decode(code, length, at);
-        if (now.kind == Decoder.UNKNOWN) {
+        if (!isInstruction(at)) {
           return;
         }
         addBit(starts, at);
@@ -2700,7 +2704,7 @@ public final class MatchHouse {
     }
 
     private int reasonAt(int at) {
-      if (now.kind == Decoder.UNKNOWN || at + now.size > length) {
+      if (!isInstruction(at)) {
         return UNSOUND;
       }
       if (at / BUNDLE != (at + now.size - 1) / BUNDLE) {

@@ -1,4 +1,5 @@
 import java.io.ByteArrayOutputStream;
+import java.util.Arrays;
 import java.util.Random;
 
 /** Promise 17: images told by hand, and random ones against the reference. */
@@ -10,10 +11,14 @@ public final class CheckTest {
     long seed = args.length > 1 ? Long.parseLong(args[1]) : 1;
     MatchHouse house = new MatchHouse();
     byHand(house);
+    atTheEnd(house);
     int[] reasons = new int[7];
     for (int k = 0; k < rounds && DUES.wrong() < 5; k++) {
       Random random = new Random(seed * 1000003 + k);
       byte[] image = k % 8 == 7 ? ProcessorTest.randomCode(random, 90) : structured(random);
+      if (k % 4 == 2) {
+        image = Arrays.copyOf(image, Math.max(0, image.length - random.nextInt(6)));
+      }
       Reference due = new Reference(image);
       due.check();
       reasons[due.reason]++;
@@ -23,7 +28,7 @@ public final class CheckTest {
       DUES.due("check(0) of " + told, house.check(0), due.reason);
       DUES.due("check(1) of " + told, house.check(1), due.refusedAt);
     }
-    System.out.println("reasons: " + java.util.Arrays.toString(reasons));
+    System.out.println("reasons: " + Arrays.toString(reasons));
     for (int reason = 0; reason < 7; reason++) {
       DUES.due("rounds of reason " + reason + " seen", reasons[reason] > 20, true);
     }
@@ -138,12 +143,44 @@ public final class CheckTest {
     due(house, nops(31) + "ff 25 00 00 02 00", 2, 31);
     due(house, nops(30) + "ff 35 00 00 02 00 06", 2, 30);
     due(house, "75 05 50 06", 3, 2);
-    // One that goes beyond the end is an instruction, an unknown one is none.
-    due(house, "75 00 b8 00 00", 1, 2);
+  }
+
+  /** What goes beyond the image's end is none of its instructions, as what is unknown is none. */
+  private static void atTheEnd(MatchHouse house) {
+    // A jump to one that is cut goes astray; to one that ends just at the end it does not.
+    due(house, "eb 00 e9", 6, 0);
+    due(house, "eb 00 e9 00 00 00", 6, 0);
+    due(house, "eb 00 e9 00 00 00 00", 0, -1);
+    due(house, "75 00 b8 00 00 00", 6, 0);
+    due(house, "75 00 b8 00 00 00 00", 0, -1);
     due(house, "75 00 06", 6, 0);
-    due(house, "75 01 90 b8 00 00", 1, 3);
-    due(house, "75 02 90 b8 00 00", 6, 0);
-    due(house, "83 e0 7f 8b 80 00 00 02 00 90 90 90 90 eb", 4, 3);
+    due(house, "75 00 90", 0, -1);
+    due(house, "0f 84 01 00 00 00 90 eb", 6, 0);
+    due(house, "0f 84 01 00 00 00 90 eb fe", 0, -1);
+    due(house, "75 01 90 b8 00 00", 6, 0);
+    due(house, "75 03 90 b8 00 00", 6, 0);
+    due(house, "75 04 90 b8 00 00", 1, 3);
+    // A cut jump has no goal: it ends no mask, and no row of and, add, jmp.
+    due(house, "83 e0 7f 8b 80 00 00 02 00 90 90 90 90 eb", 1, 13);
+    due(house, "83 e0 7f 8b 80 00 00 02 00 90 90 90 90 eb f4", 4, 3);
+    due(house, "83 e0 7f 8b 80 00 00 02 00 90 90 90 90 75", 1, 13);
+    String go = "81 e1 e0 ff 00 00 81 c1 00 00 01 00 ff e1 90 90";
+    due(house, go + "eb", 1, 16);
+    due(house, go + "eb f4", 5, 12);
+    // The cut i32 of a jump: its bytes in the image are no goal, either.
+    due(house, "83 e0 7f 8b 80 00 00 02 00 e9 f5 ff ff", 1, 9);
+    due(house, "83 e0 7f 8b 80 00 00 02 00 e9 f5 ff ff ff", 4, 3);
+    // The last instruction ends at the end of a bundle, or is cut there.
+    due(house, nops(27) + "b8 00 00 00 00", 0, -1);
+    due(house, nops(27) + "b8 00 00 00", 1, 27);
+    due(house, nops(28) + "b8 00 00 00", 1, 28);
+    // By calls.
+    MatchHouse fresh = new MatchHouse();
+    DUES.due("feed", fresh.feed(-2115961088, 35712, 512, -1869574000, -352321536), 20);
+    DUES.due("end(17)", fresh.end(17), 17);
+    DUES.due("place()", fresh.place(), 17);
+    DUES.due("check(0) of a cut jump behind a mask", fresh.check(0), 1);
+    DUES.due("check(1) of a cut jump behind a mask", fresh.check(1), 16);
   }
 
   private static void number(ByteArrayOutputStream out, int v) {

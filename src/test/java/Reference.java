@@ -566,7 +566,7 @@ final class Reference {
     boolean[] goals = new boolean[65536];
     for (int p = 0; p < image.length;) {
       Code code = decode(p);
-      if (!code.known()) {
+      if (!code.known() || p + code.size > image.length) {
         break;
       }
       instructions.put(p, code);
@@ -579,8 +579,7 @@ final class Reference {
     int[] ahead = {-1, -1};
     for (int p = 0; p < image.length;) {
       Code code = instructions.get(p);
-      boolean whole = code != null && p + code.size <= image.length;
-      reason = !whole ? 1 : reasonOf(code, p, instructions, goals, ahead);
+      reason = code == null ? 1 : reasonOf(code, p, instructions, goals, ahead);
       if (reason != 0) {
         refusedAt = p;
         return;
