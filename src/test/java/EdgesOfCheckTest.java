@@ -24,6 +24,7 @@ public final class EdgesOfCheckTest {
     numberAlone();
     registerWithMask();
     maskNumbers();
+    nothingOfTheOneAhead();
     maskIsOfItsRegister();
     maskUntilItIsWritten();
     maskStaysWhereNothingIsWritten();
@@ -255,6 +256,21 @@ public final class EdgesOfCheckTest {
     refused("83 25 00 00 02 00 7f" + NEEDS, LOOSE, 7);
   }
 
+  /** What an instruction ahead has does not stand for what this one has not. */
+  private static void nothingOfTheOneAhead() {
+    String third = "8d 8c 20 00 00 02 00 ";
+    passes(third + MASK + NEEDS);
+    passes("8d 0c 25 00 00 02 00 " + MASK + NEEDS);
+    refused("8d 88 00 00 02 00 " + MASK + "8b 08", LOOSE, 9);
+    refused("8b 0d 00 00 02 00 " + MASK + "8b 08", LOOSE, 9);
+    refused("81 c1 00 00 02 00 " + MASK + "8b 48 00", LOOSE, 9);
+    refused("88 0d 00 00 02 00 8b 0d fe ff 02 00", LOOSE, 6);
+    refused("0f b6 0d ff ff 02 00 ff 05 fd ff 02 00", LOOSE, 7);
+    passes("8b 0d 00 00 02 00 88 0d ff ff 02 00");
+    refused("eb 00 ff 20", BARRED, 2);
+    passes("81 c1 00 00 00 7f 90 99 42 f4");
+  }
+
   private static void maskIsOfItsRegister() {
     for (int r = 0; r < 8; r++) {
       for (int b = 0; b < 8; b++) {
@@ -441,6 +457,11 @@ public final class EdgesOfCheckTest {
       String jump = String.format("eb %02x b8 01 02 03 04 90", at);
       refused(jump, at == 0 || at >= 5 ? 0 : ASTRAY, at == 0 || at >= 5 ? -1 : 0);
     }
+    // At a BUNDLE's beginning there need be no INSTRUCTION's.
+    refused("eb 1e" + nops(29) + "b8 01 02 03 04", ASTRAY, 0);
+    refused("eb 1d" + nops(29) + "b8 01 02 03 04", SPLIT, 31);
+    refused("eb 1e" + nops(29) + "06 90", ASTRAY, 0);
+    passes("eb 1e" + nops(29) + "90 90");
     for (int c = 0; c < 16; c++) {
       refused(String.format("%02x 01 b8 01 02 03 04", 0x70 + c), ASTRAY, 0);
       passes(String.format("%02x 05 b8 01 02 03 04", 0x70 + c));
@@ -515,5 +536,20 @@ public final class EdgesOfCheckTest {
     due("check(0) behind match()", house.check(0), 0);
     house.place();
     due("check(0) of none", house.check(0), 0);
+    // Beginnings and GOALS of the one ahead are none of this one.
+    Dues.code(house, nops(3) + "eb fe" + nops(40));
+    due("check(0) of many", house.check(0), 0);
+    Dues.code(house, "eb 01 b8 00 00 00 00");
+    due("check(0) within one", house.check(0), ASTRAY);
+    Dues.code(house, nops(3) + "eb fe");
+    due("check(0) of a GOAL at 3", house.check(0), 0);
+    Dues.code(house, MASK + NEEDS);
+    due("check(0) without a GOAL", house.check(0), 0);
+    Dues.code(house, NEEDS);
+    due("check(0) without a MASK", house.check(0), LOOSE);
+    Dues.code(house, GO.substring(0, 36));
+    due("check(0) of and, add", house.check(0), 0);
+    Dues.code(house, "ff e1");
+    due("check(0) of jmp alone", house.check(0), WILD);
   }
 }

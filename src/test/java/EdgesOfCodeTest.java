@@ -34,6 +34,7 @@ public final class EdgesOfCodeTest {
     conditionsOfAllFlags();
     productsBeyond();
     bitByLowestFiveBits();
+    nothingOfTheOneAhead();
     memoryOfFourBytes();
     memoryOfOneByte();
     memoryStopDoesNothing();
@@ -148,6 +149,29 @@ public final class EdgesOfCodeTest {
     String and = "21 c8";
     two(and, MIN, MIN, ALL, MIN, S | P);
     two(and, 1, 2, ALL, 0, Z | P);
+    // "and, or, xor, test (and, nothing written): C, O, A 0."
+    String[] forms = {"21 c8", "23 c1", "09 c8", "0b c1", "31 c8", "33 c1", "85 c8", "85 c1"};
+    int[][] pairs = {{MIN, -1}, {0, 0}, {0x55AA, 0x0FF0}, {-1, -1}, {7, 8}};
+    for (int k = 0; k < forms.length; k++) {
+      for (int[] pair : pairs) {
+        int a = pair[0];
+        int b = pair[1];
+        int result = k < 2 || k > 5 ? a & b : k < 4 ? a | b : a ^ b;
+        int even = Integer.bitCount(result & 255) % 2 == 0 ? P : 0;
+        int flags = even | (result == 0 ? Z : 0) | (result < 0 ? S : 0);
+        two(forms[k], a, b, ALL, k > 5 ? a : result, flags);
+      }
+    }
+    two("f7 c0 ff ff ff 7f", MIN, 0, ALL, MIN, Z | P);
+    two("f7 c0 00 00 00 80", MIN, 0, ALL, MIN, S | P);
+    two("81 c8 00 00 00 80", 1, 0, ALL, MIN + 1, S);
+    two("81 f0 ff ff ff ff", -1, 0, ALL, 0, Z | P);
+    two("83 f0 ff", 0, 0, ALL, -1, S | P);
+    two("03 c1", -1, 1, 0, 0, C | A | Z | P);
+    two("2b c1", 0, 1, 0, -1, C | A | S | P);
+    two("3b c1", 0, 1, 0, 0, C | A | S | P);
+    two("13 c1", -1, 0, C, 0, C | A | Z | P);
+    two("1b c1", 0, 0, C, -1, C | A | S | P);
     String neg = "f7 d8";
     two(neg, 0, 9, ALL, 0, Z | P);
     two(neg, 1, 9, 0, -1, C | A | S | P);
@@ -185,8 +209,8 @@ public final class EdgesOfCodeTest {
     int[][] sums = {{-4, 0}, {-4, -4}, {8, (1 << 29) - 1}};
     for (int k = 0; k < reads.length; k++) {
       MatchHouse house = with(reads[k], EAX, sums[k][0], ECX, sums[k][1]);
-      house.store(0, 0x11223344);
-      step(reads[k], house, EAX, 0x11223344);
+      house.store(0, 0x11223355);
+      step(reads[k], house, EAX, 0x11223355);
     }
     stops("not so far", with("8b 80 04 00 02 00", EAX, -5), 2);
     stops("half of all", with("8b 80 04 00 02 00", EAX, MIN), 2);
@@ -220,7 +244,12 @@ public final class EdgesOfCodeTest {
     step("jo 127", with("70 7f", FLAGS, O), EIP, 65536 + 2 + 127);
     step("jo -128", with("70 80", FLAGS, O), EIP, 65536 + 2 - 128);
     step("jo that is not taken", with("70 80", FLAGS, ALL & ~O), EIP, 65538);
-    MatchHouse house = with("6a 7f 6a 80", ESP, END);
+    MatchHouse house = with("68 ff ff ff 7f 68 00 00 00 80", ESP, END);
+    step("push MAX", house, ESP, END - 4);
+    step("push MIN", house, ESP, END - 8);
+    due("MAX", house.load(65532), MAX);
+    due("MIN", house.load(65528), MIN);
+    house = with("6a 7f 6a 80", ESP, END);
     step("push 127", house, ESP, END - 4);
     step("push -128", house, ESP, END - 8);
     due("127", house.load(65532), 127);
@@ -336,7 +365,8 @@ public final class EdgesOfCodeTest {
       step("inc " + r, with(String.format("%02x", 0x40 + r), r, v), r, v + 1);
       step("dec " + r, with(String.format("%02x", 0x48 + r), r, v), r, v - 1);
       step("mov " + r, with(String.format("%02x 78 56 34 12", 0xB8 + r)), r, 0x12345678);
-      step("turn " + r, with(String.format("0f %02x", 0xC8 + r), r, 0x80345678), r, 0x78563480);
+      step("turn " + r, with(String.format("0f %02x", 0xC8 + r), r, 0x80345779), r, 0x79573480);
+      step("turn back " + r, with(String.format("0f %02x", 0xC8 + r), r, 0x79573480), r, 0x80345779);
       MatchHouse house = with(String.format("%02x", 0x50 + r), r, v, ESP, DATA + 8);
       step("push " + r, house, ESP, DATA + 4);
       due("pushed " + r, house.load(4), r == ESP ? DATA + 8 : v);
@@ -354,18 +384,18 @@ public final class EdgesOfCodeTest {
     for (int b = 0; b < 8; b++) {
       int own = b & 3;
       int up = b < 4 ? 0 : 8;
-      int put = 0x11223344 & ~(255 << up) | 0x80 << up;
-      step("mov byte " + b, with(String.format("c6 %02x 80", 0xC0 + b), own, 0x11223344), own, put);
-      step("set byte " + b, with(String.format("0f 91 %02x", 0xC0 + b), own, 0x11223344), own,
-          0x11223344 & ~(255 << up) | 1 << up);
-      int got = b < 4 ? 0x84 : 0x93;
-      step("movzx byte " + b, with(String.format("0f b6 %02x", 0xE8 + b), own, 0x11229384), 5, got);
-      step("movsx byte " + b, with(String.format("0f be %02x", 0xE8 + b), own, 0x11229384), 5,
+      int put = 0x11223355 & ~(255 << up) | 0x80 << up;
+      step("mov byte " + b, with(String.format("c6 %02x 80", 0xC0 + b), own, 0x11223355), own, put);
+      step("set byte " + b, with(String.format("0f 91 %02x", 0xC0 + b), own, 0x11223355), own,
+          0x11223355 & ~(255 << up) | 1 << up);
+      int got = b < 4 ? 0x85 : 0x93;
+      step("movzx byte " + b, with(String.format("0f b6 %02x", 0xE8 + b), own, 0x11229385), 5, got);
+      step("movsx byte " + b, with(String.format("0f be %02x", 0xE8 + b), own, 0x11229385), 5,
           got - 256);
-      MatchHouse house = with(String.format("88 %02x 04 00 02 00", 8 * b + 5), own, 0x11229384);
+      MatchHouse house = with(String.format("88 %02x 04 00 02 00", 8 * b + 5), own, 0x11229385);
       step("mov of byte " + b, house);
       due("written of byte " + b, house.load(4), got);
-      house = with(String.format("8a %02x 04 00 02 00", 8 * b + 5), own, 0x11223344);
+      house = with(String.format("8a %02x 04 00 02 00", 8 * b + 5), own, 0x11223355);
       house.store(4, -128);
       step("mov to byte " + b, house, own, put);
     }
@@ -390,17 +420,17 @@ public final class EdgesOfCodeTest {
       }
       for (int c = 0; c < 16; c++) {
         boolean on = holds(c, flags);
-        String code = String.format("%02x 05 %s", 0x70 + c, "90 ".repeat(5));
-        MatchHouse house = with(code, FLAGS, flags);
-        step("jmp if " + c + " with " + flags, house, EIP, on ? 65543 : 65538, FLAGS, flags);
-        house.put(ECX, 7);
-        Dues.code(house, String.format("0f %02x 05 00 00 00 0f %02x c0 0f %02x d9 0f %02x c0",
-            0x80 + c, 0x90, 0x40 + c, 0x90 + c));
-        step("jmp if " + c + " by i32", house, EIP, on ? 65547 : 65542);
-        house.begin(9);
-        step("mov if " + c + " with " + flags, house, EBX, on ? 7 : 0, FLAGS, flags);
+        // Another condition stands ahead, so that nothing of it stands for this one.
+        String ahead = String.format("%02x 00 ", 0x70 + (c ^ 7));
+        MatchHouse house = with(ahead + String.format("%02x 05", 0x70 + c), FLAGS, flags, ECX, 7);
+        step("jmp if " + c, at(house, 1), EIP, on ? 65545 : 65540, FLAGS, flags);
+        Dues.code(house, ahead + String.format("0f %02x 05 00 00 00", 0x80 + c));
+        step("jmp if " + c + " by i32", at(house, 1), EIP, on ? 65549 : 65544, FLAGS, flags);
+        Dues.code(house, ahead + String.format("0f %02x d9", 0x40 + c));
+        step("mov if " + c, at(house, 1), EBX, on ? 7 : 0, FLAGS, flags);
         house.put(EAX, -1);
-        step("byte if " + c + " with " + flags, house, EAX, on ? -255 : -256, FLAGS, flags);
+        Dues.code(house, ahead + String.format("0f %02x c0", 0x90 + c));
+        step("byte if " + c, at(house, 1), EAX, on ? -255 : -256, FLAGS, flags);
       }
     }
   }
@@ -462,6 +492,26 @@ public final class EdgesOfCodeTest {
     } else {
       stops(told, house, 2);
     }
+  }
+
+  /** What an instruction ahead has does not stand for what this one has not. */
+  private static void nothingOfTheOneAhead() {
+    MatchHouse house = with("8d 8c 58 04 00 00 00 8b 08 8b 15 00 00 02 00 8a 08 89 10", EAX, DATA);
+    house.store(0, 0x55667788);
+    house.store(4, 9);
+    step("lea of all", house, ECX, DATA + 4);
+    step("mov of a register alone", house, ECX, 0x55667788);
+    step("mov of a number alone", house, EDX, 0x55667788);
+    house.put(ECX, 0);
+    step("mov of one byte", house, ECX, 0x88);
+    house.put(EDX, -1);
+    step("mov of four", house);
+    due("four are written", house.load(0), -1);
+    house = with("87 c8 87 0d 00 00 02 00", EAX, 5, ECX, 6);
+    house.store(0, 7);
+    step("xchg of registers", house, EAX, 6, ECX, 5);
+    step("xchg of memory", house, ECX, 7);
+    due("what was there", house.load(0), 5);
   }
 
   /** "2 MEMORY: a byte that is read or written is not in DATA": the first four, the last four. */
@@ -553,8 +603,22 @@ public final class EdgesOfCodeTest {
         stops(pop + " at " + esp, with(pop, ESP, esp), 2);
       }
     }
+    // "call pushes the place behind"; with registers as they were.
+    MatchHouse house = with("e8 05 00 00 00 90", ESP, END);
+    step("call", house, ESP, END - 4, EIP, 65546);
+    due("the place behind call", house.load(65532), 65541);
+    house = with("ff d4", ESP, END);
+    step("call esp", house, ESP, END - 4, EIP, END);
+    due("the place behind call esp", house.load(65532), 65538);
+    house = with("ff 54 24 fc", ESP, END);
+    house.store(65532, 65600);
+    step("call [esp-4]", house, ESP, END - 4, EIP, 65600);
+    due("the place behind call [esp-4]", house.load(65532), 65540);
+    house = with("c3", ESP, END - 4);
+    house.store(65532, 65600);
+    step("ret", house, ESP, END, EIP, 65600);
     // "push: esp falls by 4, and it is written there"; "pop esp: it is what was read"
-    MatchHouse house = with("54 5c", ESP, END);
+    house = with("54 5c", ESP, END);
     step("push esp", house, ESP, END - 4);
     due("as it was", house.load(65532), END);
     step("pop esp", house, ESP, END);

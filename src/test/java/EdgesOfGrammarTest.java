@@ -249,6 +249,10 @@ public final class EdgesOfGrammarTest {
         MatchHouse house = good(text, 1);
         due("instructions of " + text, house.count(1), 3 + b - '0');
         due("the last but RET of " + text, house.program(1 + b - '0', 1), 'x');
+        house = good("a='x'^" + (char) b + "'y';", 1);
+        due("the last x of " + text, house.program(1 + b - '0', 1), 'x');
+        due("what stands behind " + text, house.program(2 + b - '0', 1), 'y');
+        due("instructions with that", house.count(1), 4 + b - '0');
       } else {
         malformed(text, 6);
       }
@@ -457,6 +461,9 @@ public final class EdgesOfGrammarTest {
     malformed("a=[b-a", 5);
     malformed("a=[a-", 5);
     malformed("a=[a-];", 5);
+    malformed("a=[A-];", 5);
+    malformed("a=[A-]];", 5);
+    malformed("a=[ --];", 5);
     malformed("a=[a--];", 5);
     malformed("a=[a-b-c];", 6);
     for (int low = 0; low < 256; low += 5) {
@@ -812,6 +819,9 @@ public final class EdgesOfGrammarTest {
         mixed.append(String.format("r%02d=%s;", k, k == 23 ? own : String.format("r%02d.?", goal)));
       }
       int all = own.endsWith("?") ? -1 : 0;
+      MatchHouse inner = good("a='w' (b 'y')?;b=c;c=" + own + ";d='v'(c/'u')?;", 4);
+      due("TEST of a NAME that stands behind", inner.program(3, 0), all == 0 ? 4 : 6);
+      due("its byte", inner.program(3, 1), all == 0 ? 'x' : 0);
       for (StringBuilder text : new StringBuilder[] {up, down, mixed}) {
         MatchHouse house = good(text.toString(), 60);
         for (int k = 0; k < 60; k++) {

@@ -41,11 +41,13 @@ public final class EdgesOfProgramTest {
     shortAndNear();
     jumpsBecomeNearOnceOnly();
     bundlesExactAndOneBeyond();
+    groupsHaveTheirNopsOnce();
     choiceTargetsAndCallsBeginBundles();
     imageOfSixtyOneThousand();
     programOfNone();
     setOfNone();
     imageOfNone();
+    programBehindOthers();
     countsAndOtherWhats();
     DUES.finish();
   }
@@ -188,6 +190,16 @@ public final class EdgesOfProgramTest {
     due("set(127, 7)", house.set(127, 7), 1 << 31);
     due("set(128, 7)", house.set(128, 7), 0);
     due("program(129, 1)", house.program(129, 1), 127);
+    StringBuilder all = new StringBuilder();
+    for (int k = 0; k < 128; k++) {
+      all.append((char) k);
+    }
+    Dues.subject(house, all.toString());
+    due("each SET has its byte", house.match(0, 1), 128);
+    Dues.subject(house, all.substring(0, 127) + "\u00ff");
+    due("and the other one", house.match(0, 1), 128);
+    Dues.subject(house, all.substring(0, 127) + "\u0080");
+    due("the last one has no other", house.match(0, 1), -2);
     tooLarge("a=" + sets(0, 129) + ";");
     tooLarge("a=" + sets(0, 128) + "[\\x80\\xff]?;");
     tooLarge("a=" + sets(0, 128) + "'x'*;");
@@ -250,10 +262,21 @@ public final class EdgesOfProgramTest {
     due("the others NULLABLE: CHOICE", house.program(3, 0), CHOICE);
     house = with("a='x'?/'zw';");
     due("the first NULLABLE: no TEST", house.program(2, 0), CHOICE);
+    house = with("a=b/'zw';b='xy';");
+    due("a NAME as the first: TEST", house.program(2, 0), TESTCHAR);
+    due("a NAME as the first: no CHOICE", house.program(3, 0), JUMP);
+    house = with("a=b/'xw';b='xy';");
+    due("a NAME as the first: CHOICE", house.program(3, 0), CHOICE);
     house = with("a=[\\x00-\\x7e]'y'/[\\x7f-\\xff]'w';");
     due("neighbours, but none in common", house.program(3, 0), SET);
     house = with("a=[\\x00-\\x7f]'y'/[\\x7f-\\xff]'w';");
     due("one in common", house.program(3, 0), CHOICE);
+    for (int b = 0; b < 256; b++) {
+      String x = String.format("\\x%02x", b);
+      house = with("a='" + x + "y'/'" + x + "w'/'" + String.format("\\x%02x", b ^ 1) + "w';");
+      due("the first two have " + b + " in common", house.program(3, 0), CHOICE);
+      due("the last two have none", house.program(8, 0), CHAR);
+    }
   }
 
   /** Each byte as it stands in CHAR and TESTCHAR, and as the SUBJECT has it. */
@@ -320,6 +343,13 @@ public final class EdgesOfProgramTest {
     house = with("b=.;a=.b;c=a b;");
     due("a CALL that has no RET behind", house.program(7, 0), CALL);
     due("one that has", house.program(8, 0), JUMP);
+    // The JUMPS are followed ahead of that: the RET behind this CALL is one to a JUMP to a RET.
+    house = with("a=('p' b/'q')/'zz';b=.;", "px");
+    due("a CALL ahead of two JUMPS", house.program(5, 0), JUMP);
+    due("its target", house.program(5, 2), 12);
+    due("the first JUMP, a RET", house.program(6, 0), RET);
+    due("the second one", house.program(8, 0), RET);
+    due("match", house.match(0, 1), 2);
     house = with("b=!.;a=b/.;");
     due("a CALL ahead of a COMMIT stays", house.program(6, 0), CALL);
   }
@@ -414,6 +444,7 @@ public final class EdgesOfProgramTest {
     meter("a='xy'?;", "x", 0, 2);
     meter("a='xy'?;", "y", 0, 1);
     meter("a={};", "", 0, 3);
+    meter("a={b}{}{};b='x';", "y", -2, 3);
     meter("a={}{};", "", 0, 5);
     meter("a={'x'};", "x", 1, 3);
     meter("a={'x'};", "y", -2, 2);
@@ -778,6 +809,42 @@ public final class EdgesOfProgramTest {
       {"a=(.![])*;", "251", "256", "8d8d01000000"},
   };
 
+  // GROUPS whose first instruction alone would have had room: CALL, RET, FAIL, GO, CHOICE, NEXT,
+  // PARTIAL, BACKCOMMIT, OPEN, IN.
+  private static final String[][] GROUPS = {
+      {"a=.;", "7", "32", "81e0f0ff0000898800000200c78004000200ffffffff89a80c000200"},
+      {"a=.;", "117", "128", "81e0f0ff00008b8800000200"},
+      {"a=.;", "170", "192", "81e0f0ff00008b88000002008b98040002008b90080002008ba80c000200"},
+      {"a='x';", "152", "160", "81e1e0ff000081c100000100ffe1"},
+      {"a='xy'?;", "147", "160", "81e0f0ff000089880000020089980400020089b80800020089a80c000200"},
+      {"a='xy'?;", "215", "224", "81e0ffff00000fb68000000200"},
+      {"a='xy'*;", "300", "320", "81e0f0ff000089980400020089b80800020089880c000200"},
+      {"a=&(([]*.))&.?;", "265", "288", "81e0f0ff00008b98040002008bb8080002008ba80c000200"},
+      {"a={};", "148", "160", "81e0f8ff0000898800000200899804000200"},
+      {"a=(.+[])+;", "153", "160", "81e0fcff00008b8000000200"},
+  };
+
+  /** "(of a GROUP once, ahead of all)" */
+  private static void groupsHaveTheirNopsOnce() {
+    for (String[] row : GROUPS) {
+      int from = Integer.parseInt(row[1]);
+      due("the first one has room in " + row[0], from % 32 + 6 <= 32, true);
+      due("all have not in " + row[0], from % 32 + row[3].length() / 2 > 32, true);
+      nopsThen(row);
+    }
+  }
+
+  private static void nopsThen(String[] row) {
+    int from = Integer.parseInt(row[1]);
+    int place = Integer.parseInt(row[2]);
+    MatchHouse house = with(row[0]);
+    due("no nop ahead in " + row[0], house.image(from - 1) == 0x90, false);
+    for (int i = from; i < place; i++) {
+      due("nop at " + i + " of " + row[0], house.image(i), 0x90);
+    }
+    bytes(row[0], place, row[3]);
+  }
+
   /** "It, and each instruction, is in one BUNDLE: where it would go beyond it, nops are ahead" */
   private static void bundlesExactAndOneBeyond() {
     for (String[] row : EXACT) {
@@ -791,14 +858,8 @@ public final class EdgesOfProgramTest {
     }
     for (String[] row : BEYOND) {
       int from = Integer.parseInt(row[1]);
-      int place = Integer.parseInt(row[2]);
       due("one beyond in " + row[0], from % 32 + row[3].length() / 2, 33);
-      MatchHouse house = with(row[0]);
-      due("no nop ahead in " + row[0], house.image(from - 1) == 0x90, false);
-      for (int i = from; i < place; i++) {
-        due("nop at " + i + " of " + row[0], house.image(i), 0x90);
-      }
-      bytes(row[0], place, row[3]);
+      nopsThen(row);
     }
     // "The place of an instruction .. is that of the first byte behind all such nops"
     due("place of RET", with("a='q'*;").program(3, 3), 160);
@@ -885,6 +946,25 @@ public final class EdgesOfProgramTest {
     Dues.grammar(house, "a=;");
     due("an instruction of the GRAMMAR that was", house.program(3, 0), -1);
     due("the last one", house.program(2, 0), RET);
+    // "its byte, SET or { (0 for others)"; "its target (NONE without one)": of all kinds.
+    house = with("a={b}.[xy][pq]*'z'?[xy]?.?'pq'?('pq')*&'pq'!'pq'(b 'r'/'s')!'t'b;b=[pq].?'q';");
+    boolean[] seen = new boolean[19];
+    for (int i = 0; i < house.count(1); i++) {
+      int kind = house.program(i, 0);
+      seen[kind] = true;
+      boolean hasArgument = kind < ANY || kind == SPAN || kind == TESTCHAR || kind == TESTSET
+          || kind == 16 || kind == 17;
+      boolean hasTarget = kind >= TESTCHAR && kind < 12 || kind == CALL;
+      if (!hasArgument) {
+        due("no byte, SET or { of " + i, house.program(i, 1), 0);
+      }
+      int target = house.program(i, 2);
+      due("a target of " + i, hasTarget ? target >= 2 : target == -1, true);
+      due("a target within " + i, target < house.count(1), true);
+    }
+    for (int kind = 0; kind < 19; kind++) {
+      due("kind " + kind + " is there", seen[kind], true);
+    }
   }
 
   /** "Word w (0 .. 7) of SET k; 0 when there is none such." */
@@ -906,6 +986,27 @@ public final class EdgesOfProgramTest {
     for (int w : new int[] {-1, 8, 9, -8, MIN, MAX}) {
       due("set(0, " + w + ")", house.set(0, w), 0);
       due("set(1, " + w + ")", house.set(1, w), 0);
+    }
+  }
+
+  /** A PROGRAM, its SETS and its IMAGE have nothing of those ahead of them. */
+  private static void programBehindOthers() {
+    String[] texts = {"a=.[xy].;", "a={[ab]}b?[q]+/b b;b='xy'/[cd]*;", "a=;", "a='x'.'y'.'z'.;",
+        "a=[^a]^9;b=[b]?;c=[bc]?;", "a=&b !b b*b+;b={.}'z';"};
+    for (String text : texts) {
+      Shown.same(DUES, "behind others: " + text, house -> Dues.grammar(house, text), house -> {
+        for (String other : texts) {
+          Dues.grammar(house, other);
+        }
+        Dues.grammar(house, text);
+      }, true);
+      Shown.same(DUES, "behind itself: " + text, house -> Dues.grammar(house, text), house -> {
+        for (int k = 0; k < 4; k++) {
+          Dues.grammar(house, text);
+          Dues.grammar(house, k % 2 == 0 ? "a=" : "a=('x'^9^9^9)^9;");
+        }
+        Dues.grammar(house, text);
+      }, true);
     }
   }
 

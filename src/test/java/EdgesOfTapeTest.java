@@ -19,6 +19,8 @@ public final class EdgesOfTapeTest {
     placeOfAll();
     shorterImageHasNoneOfTheOneBefore();
     placeLeavesAllOthers();
+    askingChangesNothing();
+    otherObjectsChangeNothing();
     DUES.finish();
   }
 
@@ -281,5 +283,58 @@ public final class EdgesOfTapeTest {
     due("the GRAMMAR stays", house.count(0), 1);
     due("the SUBJECT stays", house.count(5), 1);
     due("match again", house.match(0, 9), 1);
+  }
+
+  private static void past(MatchHouse house) {
+    Dues.grammar(house, "a={'x'}{[yz]}b?;b=[ab]+;");
+    Dues.subject(house, "xyabq");
+    house.match(0, 50);
+    Dues.grammar(house, "a=b;");
+    Dues.code(house, "43 01 c8 eb fb");
+    house.put(1, 77);
+    house.store(100, 0x01020304);
+    house.begin(1);
+    house.feed(1, 2, 3, 4, 5);
+  }
+
+  /** What is asked, rightly or wrongly, changes nothing. */
+  private static void askingChangesNothing() {
+    Shown.unchanged(DUES, "asking", EdgesOfTapeTest::past, house -> {
+      for (int odd : new int[] {-1, 0, 1, 7, 12, 4000, 65533, MIN, MAX}) {
+        house.fault(odd);
+        house.count(odd);
+        house.rule(odd, 0);
+        house.rule(0, odd);
+        house.program(odd, 0);
+        house.program(0, odd);
+        house.set(odd, 0);
+        house.set(0, odd);
+        house.image(odd);
+        house.event(odd, 0);
+        house.event(0, odd);
+        house.peak();
+        house.check(odd);
+        house.get(odd);
+        house.load(odd);
+      }
+    });
+  }
+
+  /** "All memory is the class's own", and each object's its own. */
+  private static void otherObjectsChangeNothing() {
+    MatchHouse other = new MatchHouse();
+    Shown.unchanged(DUES, "another object", EdgesOfTapeTest::past, house -> {
+      Dues.grammar(other, "q=.*{};r=[^x]'y';s={}{}q;");
+      Dues.subject(other, "qqqqqqqq");
+      other.match(3, 9);
+      other.check(0);
+      Dues.code(other, "ff e1");
+      other.check(0);
+      other.run(1);
+      other.put(1, -1);
+      other.put(8, -1);
+      other.store(100, -1);
+      other.feed(-1, -1, -1, -1, -1);
+    });
   }
 }
